@@ -1044,14 +1044,13 @@ public final class WeightedForest {
             }
         }
 
-        /** Takes a number of two digits; each digit is refused as soon as no number in the range has it there. */
+        /** Takes two digits, a number from least (0 or 1) on; a digit is refused where no number up to greatest has it. */
         private int takeNumber(int least, int greatest) {
-            int tens = take('0' + least / 10, '0' + greatest / 10);
+            int tens = take('0', '0' + greatest / 10);
             if (tens == FAILED) {
                 return FAILED;
             }
-            tens += least / 10;
-            int lowest = tens == least / 10 ? least % 10 : 0;
+            int lowest = tens == 0 ? least : 0;
             int highest = tens == greatest / 10 ? greatest % 10 : 9;
             int ones = take('0' + lowest, '0' + highest);
             return ones == FAILED ? FAILED : 10 * tens + lowest + ones;

@@ -129,6 +129,8 @@ public final class PromiseTests {
         position("F03000000ab01bc01cd", 18);
         position("F03000000ab01bc01d", 17);
         position("F04" + "01".repeat(4) + "ab01cd01bd01ac", 24);
+        position("F020000ba01ab", 12);
+        position("F03000000ba01cb01ac", 18);
         String twelve = "F12" + "01".repeat(12);
         position(twelve, -9);
         position(twelve + "l", 28);
@@ -163,6 +165,10 @@ public final class PromiseTests {
         run(5, "text(F030101) = 7; load() = -3; text(01) = 9; load() = 0; treeOf(2) = 2; treeOf(3) = -1");
         run(5, "text(F0101) = 5; load() = 0; clearText() = 5; text(F12" + "01".repeat(12) + ") = 27; load() = 0; "
             + "treeOf(11) = 11; link(10, 11, 3) = 1");
+        // Nothing of an earlier text, whole or spoiled, is left.
+        run(5, "text(F03010101ab05bc06) = 17; load() = 2; clearText() = 17; text(F03010101) = 9; load() = 0; edgeWeight(0, 1) = -9; "
+            + "edgeWeight(1, 2) = -9; treeOf(2) = 2; clearText() = 9; text(F03999999ac05x) = 14; load() = -3; vertexWeight(0) = 1; "
+            + "clearText() = 14; text(F03010101ab02) = 13; load() = 1; edgeWeight(0, 2) = -9; edgeWeight(0, 1) = 2");
     }
 
     private static void reading() {
@@ -173,6 +179,7 @@ public final class PromiseTests {
         run(7, "edgeWeight(-1, 0) = -1; edgeWeight(0, -1) = -1; edgeWeight(12, 0) = -1; edgeWeight(0, 12) = -1");
         run(7, PATH + "edgeWeight(0, 2) = -9; edgeWeight(2, 1) = 2; edgeWeight(12, 12) = -1");
         run(8, "treeOf(-1) = -1; treeOf(12) = -1; link(7, 4, 1) = 1; treeOf(7) = 4; treeOf(4) = 4; treeOf(0) = 0");
+        run(8, "link(5, 0, 1) = 1; treeOf(5) = 0; treeOf(0) = 0; link(5, 3, 1) = 2; treeOf(3) = 0; treeOf(2) = 2");
         run(8, "link(9, 8, 1) = 1; link(8, 11, 1) = 2; link(11, 2, 1) = 3; treeOf(9) = 2; treeOf(2) = 2; cut(8, 11) = 1; "
             + "treeOf(9) = 8; treeOf(11) = 2; text(F0101) = 5; load() = 0; treeOf(0) = 0; treeOf(1) = -1");
     }
@@ -227,6 +234,7 @@ public final class PromiseTests {
         run(15, STAR + "pathVertex(0, 3, 1) = 5; pathVertex(0, 3, 2) = 3; pathVertex(0, 3, 3) = -9; pathVertex(5, 5, 1) = -9");
         run(15, "pathVertex(12, 0, -1) = -1; pathVertex(0, 12, -1) = -1; pathVertex(-1, 0, 0) = -1; pathVertex(0, 1, -1) = -2; "
             + "pathVertex(0, 1, 0) = -9; pathVertex(3, 3, 0) = 3; pathVertex(3, 3, -2147483648) = -2; pathVertex(0, -1, 0) = -1");
+        run(15, "link(3, 0, 1) = 1; link(0, 4, 1) = 2; pathVertex(3, 4, 1) = 0; pathVertex(3, 4, 2) = 4; pathVertex(4, 0, 1) = 0; pathVertex(4, 0, 2) = -9");
         StringBuilder chain = new StringBuilder();
         for (int v = 0; v < 11; v++) {
             chain.append("link(").append(v + 1).append(", ").append(v).append(", 99) = ").append(v + 1).append("; ");
@@ -248,6 +256,7 @@ public final class PromiseTests {
         run(18, "link(1, 3, 1) = 1; link(2, 3, 1) = 2; link(3, 6, 5) = 3; link(3, 7, 5) = 4; diameterEnd(1, 0) = 6; diameterEnd(1, 1) = 7; "
             + "cut(3, 7) = 5; diameterEnd(1, 0) = 1; diameterEnd(1, 1) = 6");
         run(19, PATH + "centre(0) = 3; centre(4) = 3; centre(5) = 5; centre(12) = -1; centre(-1) = -1");
+        run(19, "link(1, 0, 6) = 1; centre(1) = 0; link(0, 2, 6) = 2; centre(2) = 0; setEdgeWeight(0, 1, 13) = 6; centre(2) = 0");
         run(19, "link(4, 2, 6) = 1; centre(4) = 2; centre(2) = 2; link(2, 9, 6) = 2; centre(9) = 2; link(4, 1, 6) = 3; centre(9) = 2; "
             + "setEdgeWeight(2, 9, 5) = 6; centre(9) = 4");
     }
@@ -289,8 +298,26 @@ public final class PromiseTests {
         // By numbers, not along the path: 8 - 0 - 2 - 1 - 3 - 9 rakes to 0 - 2 - 1 - 3; 1 goes first, so that 2 stays.
         run(24, "link(8, 0, 1) = 1; link(0, 2, 1) = 2; link(2, 1, 1) = 3; link(1, 3, 1) = 4; link(3, 9, 1) = 5; removalRound(1) = 1; "
             + "removalRound(2) = -9; removalRound(0) = 2; removalRound(3) = 2; survivor(9) = 2; rounds(9) = 2");
+        // The rake leaves 0 - 1 - 2, where 1 goes; and 1 - 0 - 2, where 0 goes.
+        run(24, "link(9, 0, 1) = 1; link(0, 1, 1) = 2; link(1, 2, 1) = 3; link(2, 10, 1) = 4; removalRound(1) = 1; removalRound(2) = 2; survivor(9) = 0");
+        run(24, "link(9, 1, 1) = 1; link(1, 0, 1) = 2; link(0, 2, 1) = 3; link(2, 10, 1) = 4; removalRound(0) = 1; removalRound(2) = 2; survivor(9) = 1");
+        // A vertex with three edges is not compressed.
+        run(24, "link(0, 1, 1) = 1; link(0, 2, 1) = 2; link(0, 3, 1) = 3; link(1, 4, 1) = 4; link(2, 5, 1) = 5; link(3, 6, 1) = 6; removalRound(0) = -9; "
+            + "removalRound(1) = 2; removalRound(4) = 1; rounds(6) = 2");
+        // Edges that the first round created are old in the second, so that 5 goes there.
+        run(24, longPath() + "rounds(5) = 3; removalRound(5) = 2; removalRound(3) = 3; removalRound(9) = 3; removalRound(7) = -9; removalRound(6) = 1");
+        run(25, PATH + "link(7, 8, 1) = 5; survivor(4) = 1; survivor(8) = 7; survivor(0) = 1; link(0, 7, 1) = 6; survivor(0) = 1; survivor(9) = 9");
+        run(25, "survivor(0) = 0; survivor(5) = 5; removalRound(0) = -9; link(0, 5, 1) = 1; link(1, 5, 1) = 2; removalRound(0) = 1; survivor(7) = 7; removalRound(5) = -9");
         // The rake makes new leaves, 1 and 2, with one edge: they stay in this round, and go as a pair in the next.
         run(24, "link(0, 1, 1) = 1; link(1, 2, 1) = 2; link(2, 3, 1) = 3; removalRound(0) = 1; removalRound(3) = 1; removalRound(2) = 2; removalRound(1) = -9");
+    }
+
+    private static String longPath() {
+        StringBuilder path = new StringBuilder();
+        for (int v = 0; v < 11; v++) {
+            path.append("link(").append(v).append(", ").append(v + 1).append(", 1) = ").append(v + 1).append("; ");
+        }
+        return path.toString();
     }
 
     private static void balancedCuts() {
@@ -337,6 +364,8 @@ public final class PromiseTests {
             + "possibleWeights(0, 1) = 99; observe(5, 0, 1) = 4; possibleWeights(0, 1) = 0");
         run(29, "text(F020101ab05) = 11; load() = 1; observe(0, 1, 9) = 1; possibleWeights(0, 1) = 1; observe(2, 2, 0) = 2; possibleWeights(0, 1) = 0; "
             + "possibleWeights(0, 2) = -1; edgeWeight(0, 1) = 5");
+        run(29, "text(F020101ab05) = 11; load() = 1; observe(2, 0, 0) = 1; possibleWeights(0, 1) = 0");
+        run(29, "text(F020101ab05) = 11; load() = 1; observe(0, 2, 0) = 1; possibleWeights(0, 1) = 0");
         run(29, "link(0, 1, 5) = 1; observe(0, 1, 99) = 1; possibleWeights(0, 1) = 1; observe(0, 1, 100) = 2; possibleWeights(0, 1) = 0; undo() = 0; undo() = -3");
         run(29, "link(0, 1, 5) = 1; observe(0, 1, 0) = 1; possibleWeights(0, 1) = 0");
         run(29, "link(0, 1, 5) = 1; observe(0, 1, 100) = 1; possibleWeights(0, 1) = 0; cut(0, 1) = 5; possibleWeights(0, 1) = -3");
@@ -357,6 +386,9 @@ public final class PromiseTests {
         run(30, PATH + "runScript(1, 50003) = -9; runScript(1, 50001) = -9; runScript(1, 50301) = -9; runScript(1, 50103) = 0; runScript(1, 50002) = 0; "
             + "runScript(1, 50101) = 0; runScript(1, 50505) = 0; runScript(1, 50005) = 0; runScript(1, 51212) = 0; runScript(1, 50100) = 0; "
             + "runScript(1, 50300) = 0; runScript(2, 2030450201) = -9; runScript(2, 2030450103) = 1");
+        // The new edge has the weight 1: 0 - 1 - 2 - 3 by 1, 1 and 1, or by 1, 1 and 2.
+        run(30, "link(0, 1, 1) = 1; link(1, 2, 1) = 2; runScript(2, 1020340001) = -9; runScript(2, 1020340002) = 1; link(2, 3, 2) = 3; "
+            + "runScript(1, 40002) = -9; runScript(3, 202031020340001) = -9; edgeWeight(2, 3) = 2");
         run(30, "runScript(1, 0) = 0; runScript(1, 60000) = 0; runScript(1, 70101) = 0; runScript(2, 3000060000) = 1; runScript(3, 300003000030000) = -9; "
             + "runScript(3, 300003000000000) = 2; runScript(3, 0) = 0");
         run(30, "text(F020101) = 7; load() = 0; runScript(1, 10001) = -9; runScript(1, 10002) = 0; runScript(1, 30202) = 0; runScript(1, 30101) = -9");
