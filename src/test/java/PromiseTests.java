@@ -306,6 +306,13 @@ public final class PromiseTests {
             + "removalRound(1) = 2; removalRound(4) = 1; rounds(6) = 2");
         // Edges that the first round created are old in the second, so that 5 goes there.
         run(24, longPath() + "rounds(5) = 3; removalRound(5) = 2; removalRound(3) = 3; removalRound(9) = 3; removalRound(7) = -9; removalRound(6) = 1");
+        // 0 has three edges in the first round, two of them created then; the second rakes 1, and 0 goes between two old edges.
+        run(24, "link(0, 1, 1) = 1; link(1, 2, 1) = 2; link(0, 3, 1) = 3; link(3, 4, 1) = 4; link(4, 5, 1) = 5; link(5, 6, 1) = 6; link(0, 7, 1) = 7; "
+            + "link(7, 8, 1) = 8; link(8, 9, 1) = 9; link(9, 10, 1) = 10; removalRound(3) = 1; removalRound(0) = 2; survivor(0) = 4; rounds(0) = 3");
+        // The third arm is 0 - 6 - 8 - 10 after the first round; in the second, 6 goes between two old edges.
+        run(24, "link(0, 1, 1) = 1; link(1, 2, 1) = 2; link(0, 3, 1) = 3; link(3, 4, 1) = 4; link(0, 5, 1) = 5; link(5, 6, 1) = 6; link(6, 7, 1) = 7; "
+            + "link(7, 8, 1) = 8; link(8, 9, 1) = 9; link(9, 10, 1) = 10; link(10, 11, 1) = 11; removalRound(5) = 1; removalRound(6) = 2; removalRound(8) = 3; "
+            + "survivor(0) = 0; rounds(0) = 3");
         run(25, PATH + "link(7, 8, 1) = 5; survivor(4) = 1; survivor(8) = 7; survivor(0) = 1; link(0, 7, 1) = 6; survivor(0) = 1; survivor(9) = 9");
         run(25, "survivor(0) = 0; survivor(5) = 5; removalRound(0) = -9; link(0, 5, 1) = 1; link(1, 5, 1) = 2; removalRound(0) = 1; survivor(7) = 7; removalRound(5) = -9");
         // The rake makes new leaves, 1 and 2, with one edge: they stay in this round, and go as a pair in the next.
