@@ -1044,7 +1044,7 @@ public final class WeightedForest {
             }
         }
 
-        /** Takes two digits, a number from least (0 or 1) on; a digit is refused where no number up to greatest has it. */
+        /** Takes two digits, a number from least (0 or 1) to greatest; refuses a digit that no such number has there. */
         private int takeNumber(int least, int greatest) {
             int tens = take('0', '0' + greatest / 10);
             if (tens == FAILED) {
