@@ -1,20 +1,13 @@
-import java.lang.reflect.InvocationTargetException;
-import java.lang.reflect.Method;
 import java.util.TreeSet;
 
-/**
- * Runs of calls, each on a new object, under the number of the promise that they test. A run is a text of calls and the
- * answers that the document wants; text(..) appends every character between its brackets and answers the last answer.
- */
-public final class PromiseTests {
+/** Runs of calls with ordinary inputs, edges and wrong inputs, under the number of the promise that they test. */
+public final class PromiseTests extends Calls {
     private static final int PROMISES = 33;
 
     private static final String PATH =
         "link(0, 1, 1) = 1; link(1, 2, 2) = 2; link(2, 3, 3) = 3; link(3, 4, 4) = 4; ";
     private static final String STAR = "link(5, 0, 1) = 1; link(5, 1, 2) = 2; link(5, 2, 3) = 3; link(5, 3, 4) = 4; ";
 
-    private static int wrong = 0;
-    private static int calls = 0;
     private static final TreeSet<Integer> tested = new TreeSet<>();
 
     public static void main(String[] args) {
@@ -42,10 +35,7 @@ public final class PromiseTests {
                 fail("promise " + promise + " has no test");
             }
         }
-        System.out.println(calls + " calls, " + wrong + " wrong");
-        if (wrong != 0) {
-            System.exit(1);
-        }
+        finish();
     }
 
     private static void newObject() {
@@ -470,64 +460,11 @@ public final class PromiseTests {
 
     private static void run(int promise, String text) {
         tested.add(promise);
-        WeightedForest forest = new WeightedForest();
-        for (String step : text.split("; ")) {
-            int open = step.indexOf('(');
-            int close = step.indexOf(") = ");
-            String name = step.substring(0, open).trim();
-            String inside = step.substring(open + 1, close);
-            long want = Long.parseLong(step.substring(close + 4).trim());
-            long got = name.equals("text") ? write(forest, inside) : call(forest, name, inside);
-            due(promise, "in \"" + text + "\": " + name + "(" + inside + ")", got, want);
-        }
-    }
-
-    private static long write(WeightedForest forest, String signs) {
-        long last = 0;
-        for (char sign : signs.toCharArray()) {
-            last = forest.append(sign);
-        }
-        return last;
-    }
-
-    private static long call(WeightedForest forest, String name, String inside) {
-        String[] written = inside.isEmpty() ? new String[0] : inside.split(", ");
-        for (Method method : WeightedForest.class.getMethods()) {
-            if (method.getName().equals(name) && method.getParameterCount() == written.length) {
-                try {
-                    return ((Number) method.invoke(forest, values(method, written))).longValue();
-                } catch (IllegalAccessException | InvocationTargetException e) {
-                    fail(name + "(" + inside + ") threw " + e.getCause());
-                    return Long.MIN_VALUE;
-                }
-            }
-        }
-        fail("no method " + name);
-        return Long.MIN_VALUE;
-    }
-
-    private static Object[] values(Method method, String[] written) {
-        Object[] values = new Object[written.length];
-        for (int i = 0; i < written.length; i++) {
-            if (method.getParameterTypes()[i] == long.class) {
-                values[i] = Long.parseLong(written[i]);
-            } else {
-                values[i] = Integer.parseInt(written[i]);
-            }
-        }
-        return values;
+        run("promise " + promise, text);
     }
 
     private static void due(int promise, String call, long got, long want) {
         tested.add(promise);
-        calls++;
-        if (got != want) {
-            fail("promise " + promise + ", " + call + " answered " + got + ", due is " + want);
-        }
-    }
-
-    private static void fail(String text) {
-        wrong++;
-        System.out.println(text);
+        due("promise " + promise, call, got, want);
     }
 }
