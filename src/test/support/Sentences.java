@@ -69,20 +69,31 @@ final class Sentences {
         boolean code = false;
         for (String line : lines()) {
             code ^= line.startsWith("```");
-            boolean opens = line.startsWith("## ") || line.matches("[A-Z]{4}[A-Z ]*") || line.startsWith("Examples: ")
-                || line.equals("The constants:");
-            if (opens) {
-                heading = line.replaceFirst("^## ", "").replaceFirst("^(Promise \\d+|Examples|The constants): ?.*", "$1");
-            }
-            // Left out: what the compiler checks already (the signatures), and the words that only order the document.
-            boolean silent = code || line.startsWith("# ") || opens && !line.startsWith("Examples: ") || line.startsWith("`") || line.startsWith("---- ")
-                || line.matches("- `[uvw]`: vertex");
-            if (!silent) {
-                texts.merge(heading, line, (before, more) -> before + (more.startsWith("- ") || more.isBlank() ? "|" : " ") + more);
+            heading = headingOf(line).isEmpty() ? heading : headingOf(line);
+            if (!code && !isSilent(line)) {
+                String mark = line.startsWith("- ") || line.isBlank() ? "|" : " ";
+                texts.merge(heading, line, (before, more) -> before + mark + more);
             }
         }
         texts.replaceAll((key, text) -> text.replaceAll("\\s+", " ").replaceAll("\\| ?- ", "|"));
         return texts;
+    }
+
+    /** The heading that a line is, or that it begins with; otherwise an empty text. */
+    private static String headingOf(String line) {
+        if (line.startsWith("Examples: ") || line.equals("The constants:") || line.startsWith("## Promise ")) {
+            return line.replaceFirst("^(## )?([^:]*):.*", "$2");
+        }
+        if (line.startsWith("## ")) {
+            return line.substring(3);
+        }
+        return line.matches("[A-Z]{4}[A-Z ]*") ? line : "";
+    }
+
+    /** What the compiler checks already (the signatures), and the words that only order the document. */
+    private static boolean isSilent(String line) {
+        boolean onlyHeading = !headingOf(line).isEmpty() && !line.startsWith("Examples: ");
+        return onlyHeading || line.startsWith("# ") || line.startsWith("`") || line.startsWith("---- ") || line.matches("- `[uvw]`: vertex");
     }
 
     private static Iterable<String> lines() {
